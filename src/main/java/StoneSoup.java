@@ -166,9 +166,7 @@ public final class StoneSoup {
         if (!fromNow.comesTo(pot) || i < 0 || i >= steps) {
             return NONE;
         }
-        if (!figures.read(fromNow.firstRowTo(pot), steps)) {
-            return NONE;
-        }
+        figures.read(fromNow.firstRowTo(pot), steps);
         return figures.at(i);
     }
 
@@ -328,7 +326,7 @@ public final class StoneSoup {
         if (fit == 0) {
             return NONE;
         }
-        return what == 1 ? guessed.commonNeeds() : guessed.commonHates();
+        return guessed.common(what == 1);
     }
 
     public int toShow() {
@@ -945,21 +943,12 @@ public final class StoneSoup {
             return fit;
         }
 
-        int commonNeeds() {
-            int common = POTS - 1;
+        /** What all that fit have for their n, or for their x; none is no bit. */
+        int common(boolean ofNeeds) {
+            int common = (1 << THINGS) - 1;
             for (int pair = 0; pair < PAIRS; pair++) {
                 if (fittingUpTo(pair, MOST_PEOPLE) > 0) {
-                    common &= bit(pair / CHOICES);
-                }
-            }
-            return common;
-        }
-
-        int commonHates() {
-            int common = POTS - 1;
-            for (int pair = 0; pair < PAIRS; pair++) {
-                if (fittingUpTo(pair, MOST_PEOPLE) > 0) {
-                    common &= bit(pair % CHOICES);
+                    common &= bit(ofNeeds ? pair / CHOICES : pair % CHOICES);
                 }
             }
             return common;

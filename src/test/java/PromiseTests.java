@@ -122,8 +122,11 @@ public final class PromiseTests {
     Due.is("about(9): the text stays", x.about(9), 49);
     Due.tell(x, FOUR);
     Due.is("about(0) ahead of town()", x.about(0), 6);
-    x.ask(0);
     x.lid();
+    x.lid();
+    x.lid();
+    x.ask(0);
+    Due.is("about(4) ahead of town()", x.about(4), 2);
     x.keep(0);
     x.keep(1);
     x.see(1, 1, true);
@@ -503,6 +506,11 @@ public final class PromiseTests {
     contentIs("SPa--09-0Pa--09-8Pa--09-6", 1, 0, 1, 2);
     contentIs("SPa--09-8Pa--09-0Pa--09-6", 2, 0, 1, 2);
     contentIs("S", 0);
+    contentIs("SPa--09-9", 1, 0);
+    // 12 in two parts, then 13: what is over makes a part 1 more, and no more
+    contentIs("SPa--09-7Pa--09-2", 2, 0, 1);
+    contentIs("SPa--09-8Pa--09-2", 2, 0, 1);
+    contentIs("SPa--09-7Pa--09-3", 3, 0, 1);
     contentIs(SIX, 63, 0, 1, 2, 3, 4, 5);
   }
 
@@ -727,6 +735,7 @@ public final class PromiseTests {
       Due.is("evening(" + bad + ")", x.evening(bad), BAD);
       Due.is("the seed behind evening(" + bad + ")", x.seed(0L), 5);
     }
+    Due.is("evening(1) of one", Due.of("SPa--09-0").evening(1), 1);
     StoneSoup nobody = new StoneSoup();
     nobody.seed(5L);
     Due.is("evening(1) of nobody", nobody.evening(1), LATE);
