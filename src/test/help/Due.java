@@ -4,14 +4,24 @@ import java.nio.charset.StandardCharsets;
 public final class Due {
   private static int asked = 0;
   private static int wrong = 0;
+  private static String within = "";
 
   private Due() {}
+
+  /** What is told ahead of each call that is not as due. */
+  static void within(String name) {
+    within = name;
+  }
+
+  static int asked() {
+    return asked;
+  }
 
   static void is(String call, long got, long want) {
     asked++;
     if (got != want) {
       wrong++;
-      if (wrong <= 40) System.out.println(call + " answered " + got + ", due is " + want);
+      if (wrong <= 40) System.out.println(within + call + " answered " + got + ", due is " + want);
     }
   }
 
@@ -26,7 +36,7 @@ public final class Due {
     asked++;
     if (!got.equals(want)) {
       wrong++;
-      if (wrong <= 40) System.out.println(call + ": " + got + ", due is " + want);
+      if (wrong <= 40) System.out.println(within + call + ": " + got + ", due is " + want);
     }
   }
 

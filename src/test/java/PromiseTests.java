@@ -718,10 +718,10 @@ public final class PromiseTests {
   }
 
   private static void evening() {
-    StoneSoup x = Due.of(SIX);
     long v = 12345L;
     int pot = 0;
     for (int m = 1; m <= 60; m++) {
+      StoneSoup x = Due.of(SIX);
       v = v * 6364136223846793005L + 1442695040888963407L;
       pot |= 1 << step(v, 6);
       x.seed(12345L);
@@ -731,6 +731,7 @@ public final class PromiseTests {
       Due.is("the seed behind evening(" + m + ")", x.seed(0L), v);
     }
     for (int bad : new int[] {-1, 0, 61, MIN, MAX}) {
+      StoneSoup x = Due.of(SIX);
       x.seed(5L);
       Due.is("evening(" + bad + ")", x.evening(bad), BAD);
       Due.is("the seed behind evening(" + bad + ")", x.seed(0L), 5);
